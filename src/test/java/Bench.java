@@ -1,0 +1,142 @@
+import java.nio.charset.StandardCharsets;
+import java.util.Arrays;
+
+/** An object of the program with what tests do with it again and again. */
+final class Bench {
+    static final int CLIENT = 0;
+    static final int SERVER = 1;
+    static final byte[] PSK = row(20, 1);
+    static final byte[] NAME = "deck".getBytes(StandardCharsets.ISO_8859_1);
+    static final byte[] CLIENT_RANDOM = row(32, 0);
+    static final byte[] SERVER_RANDOM = row(32, 100);
+
+    final SecretEnds x = new SecretEnds();
+
+    /** n bytes that count up from the first. */
+    static byte[] row(int n, int first) {
+        byte[] all = new byte[n];
+        for (int i = 0; i < n; i++) {
+            all[i] = (byte) (first + i);
+        }
+        return all;
+    }
+
+    /** A client 0 and a server 1 that are told the same, not started. */
+    static Bench told() {
+        Bench bench = new Bench();
+        bench.x.make(false);
+        bench.x.make(true);
+        bench.tellAll(CLIENT, PSK, NAME, CLIENT_RANDOM);
+        bench.tellAll(SERVER, PSK, NAME, SERVER_RANDOM);
+        return bench;
+    }
+
+    static Bench started() {
+        Bench bench = told();
+        bench.x.start(CLIENT);
+        bench.x.start(SERVER);
+        return bench;
+    }
+
+    /** The server has answered: 5; the client has read nothing yet: 1. */
+    static Bench answered() {
+        Bench bench = started();
+        Check.due("the server reads CLIENTHELLO", bench.x.carry(CLIENT, SERVER), 5);
+        return bench;
+    }
+
+    /** The client waits for FINISHED: 3; the server: 5. */
+    static Bench waiting() {
+        Bench bench = answered();
+        Check.due("the client reads SERVERHELLO", bench.x.carry(SERVER, CLIENT), 2);
+        Check.due("the client reads EXTENSIONS", bench.x.carry(SERVER, CLIENT), 3);
+        return bench;
+    }
+
+    static Bench connected() {
+        Bench bench = waiting();
+        Check.due("the client reads FINISHED", bench.x.carry(SERVER, CLIENT), 6);
+        Check.due("the server reads FINISHED", bench.x.carry(CLIENT, SERVER), 6);
+        return bench;
+    }
+
+    void tellAll(int end, byte[] psk, byte[] name, byte[] random) {
+        put(psk);
+        Check.due("tell(" + end + ", 0)", x.tell(end, 0), true);
+        put(name);
+        Check.due("tell(" + end + ", 1)", x.tell(end, 1), true);
+        put(random);
+        Check.due("tell(" + end + ", 2)", x.tell(end, 2), true);
+    }
+
+    /** The tape has just these bytes then. */
+    void put(byte[] bytes) {
+        x.end(0);
+        for (int at = 0; at < bytes.length; at += 20) {
+            byte[] part = Arrays.copyOf(Arrays.copyOfRange(bytes, at, Math.max(at, Math.min(bytes.length, at + 20))), 20);
+            x.feed(word(part, 0), word(part, 4), word(part, 8), word(part, 12), word(part, 16));
+        }
+        Check.due("end(" + bytes.length + ")", x.end(bytes.length), bytes.length);
+    }
+
+    private static int word(byte[] part, int at) {
+        return (part[at] & 255) << 24 | (part[at + 1] & 255) << 16 | (part[at + 2] & 255) << 8 | (part[at + 3] & 255);
+    }
+
+    int giveBytes(int end, byte[] bytes) {
+        put(bytes);
+        return x.give(end);
+    }
+
+    int sayBytes(int end, byte[] bytes) {
+        put(bytes);
+        return x.say(end);
+    }
+
+    byte[] writtenRecord(int end, int k) {
+        byte[] all = new byte[1000];
+        int n = 0;
+        for (int next = x.written(end, k, 0); next != SecretEnds.NONE; next = x.written(end, k, n)) {
+            all[n] = (byte) next;
+            n++;
+        }
+        return Arrays.copyOf(all, n);
+    }
+
+    byte[] givenBytes(int end) {
+        byte[] all = new byte[x.state(end, 4)];
+        for (int i = 0; i < all.length; i++) {
+            all[i] = (byte) x.given(end, i);
+        }
+        return all;
+    }
+
+    byte[] secretBytes(int end, int what) {
+        byte[] all = new byte[32];
+        for (int i = 0; i < 32; i++) {
+            int next = x.secret(end, what, i);
+            Check.due("secret(" + end + ", " + what + ", " + i + ") is a byte", next >= 0 && next <= 255, true);
+            all[i] = (byte) next;
+        }
+        return all;
+    }
+
+    /** Gives an END a record that is sealed rightly by the keys that it reads by. */
+    int giveSealed(int end, byte[] inner) {
+        return giveBytes(end, Crypto.seal(secretBytes(end, 1), x.state(end, 6), inner));
+    }
+
+    /** What is in record k of an END, by a secret and a number; fails where the seal is not right. */
+    byte[] opened(int end, int k, byte[] secret, long number) {
+        byte[] inner = Crypto.open(secret, number, writtenRecord(end, k));
+        Check.due("the seal of record " + k + " of END " + end + " is right", inner != null, true);
+        return inner == null ? new byte[0] : inner;
+    }
+
+    /** An END FAILED by what it read, with this alert, and with one record more or not. */
+    void dueAlert(String what, int end, int alert) {
+        Check.due(what + ": state", x.state(end, 0), 7);
+        Check.due(what + ": alert", x.state(end, 1), alert);
+        Check.due(what + ": no ALERT was read", x.state(end, 2), SecretEnds.NONE);
+    }
+}
