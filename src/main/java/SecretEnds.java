@@ -237,10 +237,10 @@ public final class SecretEnds {
             }
         }
 
-        /** The highest byte first. */
+        /** Up to four bytes, the highest first. */
         void putNumber(int value, int size) {
             for (int i = size - 1; i >= 0 && count < bytes.length; i--) {
-                bytes[count] = i < 4 ? (value >>> (8 * i)) & 255 : 0;
+                bytes[count] = (value >>> (8 * i)) & 255;
                 count++;
             }
         }
@@ -657,7 +657,7 @@ public final class SecretEnds {
             work = new long[LIMBS];
         }
 
-        /** The text is a whole number of blocks; the key has 32 bytes. */
+        /** The text is a whole number of blocks; the key has 32 bytes, serves once, and is changed. */
         void tag(Row key, Row text, Row out) {
             for (int i = 0; i < LIMBS; i++) {
                 factor[i] = 0;
@@ -921,7 +921,7 @@ public final class SecretEnds {
 
         static final int LONGEST = HEAD + CLIENT_REST + MOST_NAME;
 
-        static void putHead(Row out, int kind, int length) {
+        private static void putHead(Row out, int kind, int length) {
             out.clear();
             out.put(kind);
             out.putNumber(length, 3);

@@ -9,6 +9,7 @@ public final class AnswersTest {
         secretsOfAHandshake();
         secretRefuses();
         secretsStayWithOneFailed();
+        connectionsDoNotMix();
         statesOfAHandshake();
         numbersOfAHandshake();
         statesOfAlerts();
@@ -74,6 +75,30 @@ public final class AnswersTest {
         Bench c = Bench.waiting();
         c.giveBytes(0, Crypto.bytes(0));
         dueSecrets("FAILED in state 3", c, 0, hand("c"), hand("s"));
+    }
+
+    /** Two connections by turns, with the tape's hash asked for between. */
+    private static void connectionsDoNotMix() {
+        Bench b = Bench.told();
+        b.x.make(true);
+        b.x.make(false);
+        byte[] psk = Bench.row(33, 60);
+        b.tellAll(2, psk, Bench.row(16, 1), Bench.row(32, 5));
+        b.tellAll(3, psk, Bench.row(16, 1), Bench.row(32, 9));
+        for (int end = 0; end < 4; end++) {
+            b.x.start(end);
+        }
+        int[][] ways = {{0, 1}, {3, 2}, {1, 0}, {2, 3}, {1, 0}, {2, 3}, {1, 0}, {2, 3}, {0, 1}, {3, 2}};
+        for (int[] way : ways) {
+            b.put(Bench.row(30, way[0]));
+            b.x.hash(0);
+            Check.due("carry", b.x.carry(way[0], way[1]) != 7, true);
+        }
+        dueSecrets("by turns", b, 0, main("c"), main("s"));
+        dueSecrets("by turns", b, 1, main("s"), main("c"));
+        Check.due("the other server", b.x.state(2, 0), 6);
+        Check.dueBytes("the others have the same", b.secretBytes(2, 0), b.secretBytes(3, 1));
+        Check.dueBytes("both ways", b.secretBytes(2, 1), b.secretBytes(3, 0));
     }
 
     private static void statesOfAHandshake() {

@@ -11,11 +11,10 @@ public final class RoomTest {
 
     public static void main(String[] args) {
         ThreadMXBean bean = (ThreadMXBean) ManagementFactory.getThreadMXBean();
-        long id = Thread.currentThread().getId();
         fullRun();
-        long before = bean.getThreadAllocatedBytes(id);
+        long before = bean.getCurrentThreadAllocatedBytes();
         fullRun();
-        long made = bean.getThreadAllocatedBytes(id) - before;
+        long made = bean.getCurrentThreadAllocatedBytes() - before;
         System.out.println("a run makes " + made + " bytes");
         Check.due("a run of 512 calls makes little (" + made + ")", made < MOST_BYTES, true);
         Check.finish();
