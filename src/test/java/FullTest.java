@@ -52,7 +52,7 @@ public final class FullTest {
     }
 
     private static void doubleHello(Bench b) {
-        for (int i = 1; i < 32; i++) {
+        for (int n = b.x.state(0, 3); n < 32; n++) {
             Check.due("double", b.x.meddle(0, 1), true);
         }
     }
@@ -72,7 +72,7 @@ public final class FullTest {
         b.x.carry(0, 1);
         b.x.carry(1, 0);
         b.x.carry(1, 0);
-        doubleHelloUpTo32(b);
+        doubleHello(b);
         byte[] writes = b.secretBytes(0, 0);
         byte[] reads = b.secretBytes(0, 1);
         Check.due("FINISHED is read", b.x.carry(1, 0), 7);
@@ -83,12 +83,6 @@ public final class FullTest {
         Check.dueBytes("it reads by", b.secretBytes(0, 1), reads);
         Check.due("the number written", b.x.state(0, 5), 0);
         Check.due("the number read", b.x.state(0, 6), 2);
-    }
-
-    private static void doubleHelloUpTo32(Bench b) {
-        for (int n = b.x.state(0, 3); n < 32; n++) {
-            Check.due("double", b.x.meddle(0, 1), true);
-        }
     }
 
     private static void anUpdateInTurnIsLost(int end) {
