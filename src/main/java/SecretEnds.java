@@ -20,8 +20,12 @@ public final class SecretEnds {
 
     public SecretEnds() {
         tape = new Row(MOST_TAPE);
-        ends = new End[MOST_ENDS];
         tools = new Tools();
+        // Room for all four is made here, and make() gives it out: so no call makes an object.
+        ends = new End[MOST_ENDS];
+        for (int i = 0; i < MOST_ENDS; i++) {
+            ends[i] = new End(tools);
+        }
         endCount = 0;
     }
 
@@ -49,7 +53,7 @@ public final class SecretEnds {
         if (endCount >= MOST_ENDS) {
             return NONE;
         }
-        ends[endCount] = new End(server, tools);
+        ends[endCount].server = server;
         endCount++;
         return endCount - 1;
     }
@@ -1031,11 +1035,11 @@ public final class SecretEnds {
         // Both hellos, EXTENSIONS and the server's FINISHED.
         private static final int TRANSCRIPT = 2 * Messages.LONGEST + HASH;
 
-        final boolean server;
         final Pile pile;
         final Row gotten;
         final Keys writes;
         final Keys reads;
+        boolean server;
         int state;
         private final Tools tools;
         private final Schedule schedule;
@@ -1050,8 +1054,7 @@ public final class SecretEnds {
         private boolean closed;
         private boolean otherClosed;
 
-        End(boolean server, Tools tools) {
-            this.server = server;
+        End(Tools tools) {
             this.tools = tools;
             pile = new Pile();
             gotten = new Row(MOST_GIVEN);
@@ -1062,6 +1065,7 @@ public final class SecretEnds {
             name = new Row(MOST_NAME);
             random = new Row(Messages.RANDOM);
             transcript = new Row(TRANSCRIPT);
+            server = false;
             state = MADE;
             inside = NOTHING;
             task = PASS;

@@ -7,6 +7,7 @@ public final class MakingTest {
 
     public static void main(String[] args) {
         makeNumbersThem();
+        noneIsThereAheadOfMake();
         tellTakesTheTape();
         tellRefuses();
         tellMayBeAgain();
@@ -30,6 +31,47 @@ public final class MakingTest {
                 Check.due("state(" + end + ", " + what + ") of one MADE", x.state(end, what), want[what]);
             }
         }
+    }
+
+    /** An END that isn't made yet answers nothing, and keeps nothing for when it is. */
+    private static void noneIsThereAheadOfMake() {
+        Bench b = new Bench();
+        for (int made = 0; made < 4; made++) {
+            for (int end = made; end < 4; end++) {
+                dueNoSuch(b, end);
+            }
+            Check.due("make", b.x.make(made % 2 == 0), made);
+            Check.due("ENDS", b.x.about(1), made + 1);
+            int[] want = {0, NONE, NONE, 0, 0, 0, 0, 0, 0, made % 2 == 0 ? 1 : 0};
+            for (int what = 0; what < want.length; what++) {
+                Check.due("state(" + made + ", " + what + ") of a new one", b.x.state(made, what), want[what]);
+            }
+            Check.due("start of one that is told nothing", b.x.start(made), false);
+        }
+    }
+
+    private static void dueNoSuch(Bench b, int end) {
+        SecretEnds x = b.x;
+        byte[][] told = {Bench.PSK, Bench.NAME, Bench.CLIENT_RANDOM};
+        for (int what = 0; what < told.length; what++) {
+            b.put(told[what]);
+            Check.due("tell(" + end + ", " + what + ")", x.tell(end, what), false);
+            Check.due("the tape stays", x.about(0), told[what].length);
+        }
+        Check.due("start(" + end + ")", x.start(end), false);
+        Check.due("say(" + end + ")", x.say(end), NONE);
+        Check.due("update(" + end + ", 0)", x.update(end, 0), NONE);
+        Check.due("close(" + end + ")", x.close(end), false);
+        Check.due("carry(" + end + ", " + end + ")", x.carry(end, end), NONE);
+        Check.due("give(" + end + ")", x.give(end), NONE);
+        for (int what = 0; what < 10; what++) {
+            Check.due("meddle(" + end + ", " + what + ")", x.meddle(end, what), false);
+            Check.due("secret(" + end + ", " + what + ", 0)", x.secret(end, what, 0), NONE);
+            Check.due("state(" + end + ", " + what + ")", x.state(end, what), NONE);
+        }
+        Check.due("alter(" + end + ", 0, 1)", x.alter(end, 0, 1), false);
+        Check.due("written(" + end + ", 0, 0)", x.written(end, 0, 0), NONE);
+        Check.due("given(" + end + ", 0)", x.given(end, 0), NONE);
     }
 
     private static void tellTakesTheTape() {
