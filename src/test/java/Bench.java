@@ -10,7 +10,15 @@ final class Bench {
     static final byte[] CLIENT_RANDOM = row(32, 0);
     static final byte[] SERVER_RANDOM = row(32, 100);
 
-    final SecretEnds x = new SecretEnds();
+    /** Every state with the ENDS of a pair that come to it: a state, then the END's number. */
+    static final int[][] PLACES = {
+        {0, CLIENT}, {0, SERVER}, {1, CLIENT}, {2, CLIENT}, {3, CLIENT}, {4, SERVER}, {5, SERVER},
+        {6, CLIENT}, {6, SERVER}, {7, CLIENT}, {7, SERVER}
+    };
+    /** Numbers that are no END's where two are made: the next one, and those around 0 .. 3. */
+    static final int[] NO_ENDS = {2, 3, 4, 5, -1, -2, Integer.MAX_VALUE, Integer.MIN_VALUE};
+
+    final Counted x = new Counted();
 
     /** n bytes that count up from the first. */
     static byte[] row(int n, int first) {
@@ -60,6 +68,53 @@ final class Bench {
         return bench;
     }
 
+    /** A pair of which this END is in this state: one of PLACES. */
+    static Bench in(int state, int end) {
+        Bench bench = begun(state);
+        if (state == 7) {
+            Check.due("nothing is given", bench.giveBytes(end, Crypto.NOTHING), 7);
+        }
+        Check.due("the state that was to come", bench.x.state(end, 0), state);
+        return bench;
+    }
+
+    private static Bench begun(int state) {
+        switch (state) {
+            case 0:
+                return told();
+            case 1:
+            case 4:
+                return started();
+            case 2:
+                Bench bench = answered();
+                Check.due("the client reads SERVERHELLO", bench.x.carry(SERVER, CLIENT), 2);
+                return bench;
+            case 3:
+                return waiting();
+            case 5:
+                return answered();
+            default:
+                return connected();
+        }
+    }
+
+    /** A pair CONNECTED of which this END has said so often, one byte each time. */
+    static Bench said(int end, int times) {
+        Bench bench = connected();
+        for (int i = 0; i < times; i++) {
+            Check.due("say", bench.sayBytes(end, Crypto.bytes(i + 1)), i + 1);
+        }
+        return bench;
+    }
+
+    /** Doubles the first record that lies there until so many do. */
+    Bench doubled(int end, int upTo) {
+        for (int n = x.state(end, 3); n < upTo; n++) {
+            Check.due("double", x.meddle(end, 1), true);
+        }
+        return this;
+    }
+
     void tellAll(int end, byte[] psk, byte[] name, byte[] random) {
         put(psk);
         Check.due("tell(" + end + ", 0)", x.tell(end, 0), true);
@@ -71,9 +126,13 @@ final class Bench {
 
     /** The tape has just these bytes then. */
     void put(byte[] bytes) {
+        feedAll(x, bytes);
+    }
+
+    static void feedAll(Counted x, byte[] bytes) {
         x.end(0);
         for (int at = 0; at < bytes.length; at += 20) {
-            byte[] part = Arrays.copyOf(Arrays.copyOfRange(bytes, at, Math.max(at, Math.min(bytes.length, at + 20))), 20);
+            byte[] part = Arrays.copyOfRange(bytes, at, at + 20);
             x.feed(word(part, 0), word(part, 4), word(part, 8), word(part, 12), word(part, 16));
         }
         Check.due("end(" + bytes.length + ")", x.end(bytes.length), bytes.length);
@@ -96,7 +155,7 @@ final class Bench {
     byte[] writtenRecord(int end, int k) {
         byte[] all = new byte[1000];
         int n = 0;
-        for (int next = x.written(end, k, 0); next != SecretEnds.NONE; next = x.written(end, k, n)) {
+        for (int next = x.written(end, k, 0); next != SecretEnds.NONE && n < all.length; next = x.written(end, k, n)) {
             all[n] = (byte) next;
             n++;
         }

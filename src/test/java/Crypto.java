@@ -124,7 +124,7 @@ final class Crypto {
     }
 
     static byte[] record(int type, byte[] content) {
-        return join(bytes(type, 3, 3, content.length >> 8, content.length & 255), content);
+        return join(bytes(type, 3, 3), two(content.length), content);
     }
 
     static byte[] message(int kind, byte[] body) {
@@ -139,13 +139,16 @@ final class Crypto {
     }
 
     private static byte[] clientHelloBody(byte[] name, byte[] random) {
-        byte[] names = join(bytes(0, name.length), name, bytes(0, 0, 0, 0));
-        byte[] known = join(bytes(0, names.length), names);
+        byte[] names = join(two(name.length), name, bytes(0, 0, 0, 0));
+        byte[] known = join(two(names.length), names);
         byte[] extensions = join(bytes(0, 43, 0, 3, 2, 3, 4), bytes(0, 45, 0, 2, 1, 0),
-            bytes(0, 41, 0, known.length + 35), known);
-        int length = extensions.length + 35;
+            bytes(0, 41), two(known.length + 35), known);
         return join(bytes(3, 3), random, bytes(0), bytes(0, 2, 0x13, 3), bytes(1, 0),
-            bytes(length >> 8, length), extensions);
+            two(extensions.length + 35), extensions);
+    }
+
+    private static byte[] two(int n) {
+        return bytes(n >> 8, n);
     }
 
     static byte[] serverHello(byte[] random) {
