@@ -88,6 +88,48 @@ public final class AnswersTest {
         Check.dueBytes("both ways", b.secretBytes(2, 1), b.secretBytes(3, 0));
     }
 
+    /** The first and the last of four ENDS answer every call, those beside them none. */
+    @Says(promise = {7, 8, 9, 10, 11, 12, 13, 14, 15, 16, 17}, part = "I", text = "an END 0 .. 3: a client or a server;")
+    private static void everyCallKnowsFourEnds() {
+        for (int end = 0; end < 4; end++) {
+            Counted x = Bench.four().x;
+            x.feed(1, 2, 3, 4, 5);
+            Check.due("say(" + end + ")", x.say(end), 1);
+            Check.due("meddle(" + end + ", 1)", x.meddle(end, 1), true);
+            Check.due("alter(" + end + ", 0, 4)", x.alter(end, 0, 4), true);
+            Check.due("written(" + end + ", 0, 0)", x.written(end, 0, 0), 19);
+            Check.due("meddle(" + end + ", 0)", x.meddle(end, 0), true);
+            Check.due("carry(" + end + ", " + (end ^ 1) + ")", x.carry(end, end ^ 1), 6);
+            Check.due("given(" + (end ^ 1) + ", 19)", x.given(end ^ 1, 19), 5);
+            Check.due("update(" + end + ", 0)", x.update(end, 0), 1);
+            Check.due("secret(" + end + ", 0, 31) is there", x.secret(end, 0, 31) != NONE, true);
+            Check.due("close(" + end + ")", x.close(end), true);
+            Check.due("state(" + end + ", 7)", x.state(end, 7), 1);
+            Check.due("give(" + end + ")", x.give(end), 7);
+        }
+        Twins twins = new Twins(() -> {
+            Bench b = Bench.four();
+            b.sayBytes(0, Crypto.bytes(7));
+            b.sayBytes(3, Crypto.bytes(8));
+            b.put(Bench.row(3, 1));
+            return b;
+        });
+        for (int end : new int[] {-2, -1, 4, 5}) {
+            twins.dueNone("say(" + end + ")", x -> x.say(end));
+            twins.dueFalse("meddle(" + end + ", 1)", x -> x.meddle(end, 1));
+            twins.dueFalse("alter(" + end + ", 0, 4)", x -> x.alter(end, 0, 4));
+            twins.dueNone("written(" + end + ", 0, 0)", x -> x.written(end, 0, 0));
+            twins.dueNone("carry(" + end + ", 0)", x -> x.carry(end, 0));
+            twins.dueNone("carry(3, " + end + ")", x -> x.carry(3, end));
+            twins.dueNone("given(" + end + ", 0)", x -> x.given(end, 0));
+            twins.dueNone("update(" + end + ", 0)", x -> x.update(end, 0));
+            twins.dueNone("secret(" + end + ", 0, 31)", x -> x.secret(end, 0, 31));
+            twins.dueFalse("close(" + end + ")", x -> x.close(end));
+            twins.dueNone("state(" + end + ", 7)", x -> x.state(end, 7));
+            twins.dueNone("give(" + end + ")", x -> x.give(end));
+        }
+    }
+
     @Says(promise = 17, text = "Of an END: 0 its state, ")
     @Says(promise = {6, 10, 17}, part = "II", text = "STATES: 0 MADE. A client that starts writes CLIENTHELLO: 1, "
         + "waits for SERVERHELLO; 2, for EXTENSIONS; 3, for FINISHED: then it writes its own and is 6 CONNECTED. "

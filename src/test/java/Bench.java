@@ -62,10 +62,31 @@ final class Bench {
     }
 
     static Bench connected() {
-        Bench bench = waiting();
-        Check.due("the client reads FINISHED", bench.x.carry(SERVER, CLIENT), 6);
-        Check.due("the server reads FINISHED", bench.x.carry(CLIENT, SERVER), 6);
+        Bench bench = told();
+        bench.shakeHands(CLIENT, SERVER);
         return bench;
+    }
+
+    /** Two pairs CONNECTED: all the ENDS that there may be. */
+    static Bench four() {
+        Bench bench = connected();
+        bench.x.make(false);
+        bench.x.make(true);
+        bench.tellAll(2, PSK, NAME, row(32, 5));
+        bench.tellAll(3, PSK, NAME, row(32, 9));
+        bench.shakeHands(2, 3);
+        return bench;
+    }
+
+    /** A client and a server that are told the same start and come to CONNECTED. */
+    void shakeHands(int client, int server) {
+        Check.due("the client starts", x.start(client), true);
+        Check.due("the server starts", x.start(server), true);
+        Check.due("the server reads CLIENTHELLO", x.carry(client, server), 5);
+        Check.due("the client reads SERVERHELLO", x.carry(server, client), 2);
+        Check.due("the client reads EXTENSIONS", x.carry(server, client), 3);
+        Check.due("the client reads FINISHED", x.carry(server, client), 6);
+        Check.due("the server reads FINISHED", x.carry(client, server), 6);
     }
 
     /** A pair of which this END is in this state: one of PLACES. */

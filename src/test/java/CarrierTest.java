@@ -76,6 +76,26 @@ public final class CarrierTest {
         Check.dueBytes("the alert", c.writtenRecord(0, 31), Crypto.seal(secret, 32, Crypto.bytes(2, 20, 21)));
     }
 
+    /** What comes to its own writer is read as any other's: by the keys that it reads by, if it has some. */
+    @Says(promise = 10, text = "(or itself)")
+    private static void carryToItselfInEveryState() {
+        int[][] places = {{1, 0, 10}, {5, 1, 10}, {7, 0, 50}, {7, 1, 50}};
+        for (int[] place : places) {
+            int end = place[1];
+            Bench b = Bench.in(place[0], end);
+            Check.due("its own record in state " + place[0], b.x.carry(end, end), 7);
+            b.dueAlert("its own record in state " + place[0], end, place[2]);
+        }
+        for (int end = 0; end < 2; end++) {
+            Bench b = Bench.connected();
+            Check.due("close", b.x.close(end), true);
+            Check.due("its own close", b.x.carry(end, end), 7);
+            b.dueAlert("its own close", end, 20);
+            Check.due("the other side has not closed", b.x.state(end, 8), 0);
+            Check.due("one that has closed writes no alert", b.x.state(end, 3), 0);
+        }
+    }
+
     @Says(promise = 10, part = "III",
         text = "an END that is MADE, FAILED, or whose other side has closed: nothing is read.")
     private static void carryToDeafEnds() {

@@ -6,8 +6,12 @@ import java.util.Comparator;
 
 /** Runs tests, and counts and prints the answers that are not as due. */
 final class Check {
+    // One fault can make thousands of answers wrong: of each test the first ones tell enough.
+    private static final int MOST_PRINTED = 20;
+
     private static int made = 0;
     private static int wrong = 0;
+    private static int printed = 0;
     private static String test = "";
 
     private Check() {
@@ -39,6 +43,7 @@ final class Check {
             name.append(says.part().isEmpty() ? "" : ", " + says.part()).append(": \"").append(says.text()).append('"');
         }
         test = name.append("): ").toString();
+        printed = 0;
         for (Says says : sentences) {
             due("the document has \"" + says.text() + "\" there", Doc.has(says), true);
         }
@@ -63,7 +68,10 @@ final class Check {
         made++;
         if (got != want) {
             wrong++;
-            System.out.println(test + what + " answered " + got + ", due is " + want);
+            printed++;
+            if (printed <= MOST_PRINTED) {
+                System.out.println(test + what + " answered " + got + ", due is " + want);
+            }
         }
     }
 

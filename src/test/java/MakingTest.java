@@ -203,6 +203,28 @@ public final class MakingTest {
         dueLengths(RANDOM, new int[] {32}, new int[] {0, 1, 16, 30, 31, 33, 34, 64, 600});
     }
 
+    /** Both sides of a connection by a SECRET and a NAME of the edges' lengths come to the same secrets. */
+    @Says(promise = {5, 10, 16}, part = "I", text = "its SECRET (1 to 64 bytes), NAME (1 to 16;")
+    private static void connectionsByTheEdges() {
+        for (int secret : new int[] {1, 2, 63, 64}) {
+            for (int name : new int[] {1, 16}) {
+                Bench b = made(2);
+                byte[] psk = Bench.row(secret, 77);
+                b.tellAll(0, psk, Bench.row(name, 33), Bench.CLIENT_RANDOM);
+                b.tellAll(1, psk, Bench.row(name, 33), Bench.SERVER_RANDOM);
+                b.shakeHands(0, 1);
+                byte[] log = Crypto.join(Crypto.clientHello(psk, Bench.row(name, 33), Bench.CLIENT_RANDOM),
+                    Crypto.serverHello(Bench.SERVER_RANDOM));
+                byte[] hand = Crypto.expand(Crypto.hand(psk), "s hs traffic", Crypto.sha(log));
+                log = Crypto.join(log, Crypto.extensions());
+                log = Crypto.join(log, Crypto.finished(hand, log));
+                byte[] want = Crypto.expand(Crypto.main(psk), "c ap traffic", Crypto.sha(log));
+                Check.dueBytes("the client writes by", b.secretBytes(0, 0), want);
+                Check.dueBytes("the server reads by", b.secretBytes(1, 1), want);
+            }
+        }
+    }
+
     @Says(promise = 5, text = "no such END")
     private static void tellRefusesNoSuchEnd() {
         for (int n : new int[] {16, 32}) {
