@@ -285,21 +285,40 @@ public final class MakingTest {
             for (int told = 0; told < 7; told++) {
                 int those = told;
                 new Twins(() -> toldOf(who, those)).dueFalse("start with " + told + " of 7", x -> x.start(who));
+                dueStartsWhenToldTheRest(who, told);
             }
             Check.due("start with all", toldOf(who, 7).x.start(who), true);
+        }
+    }
+
+    /** What was told ahead of the refused start is kept: only the others have to be told. */
+    private static void dueStartsWhenToldTheRest(int end, int bits) {
+        Bench b = toldOf(end, bits);
+        Check.due("start with " + bits + " of 7", b.x.start(end), false);
+        tellOf(b, end, 7 - bits);
+        Check.due("start with the rest", b.x.start(end), true);
+        if (end == 0) {
+            dueHello(b, Bench.PSK, Bench.NAME, Bench.CLIENT_RANDOM);
+        } else {
+            byte[] hello = Crypto.clientHello(Bench.PSK, Bench.NAME, Bench.SERVER_RANDOM);
+            Check.due("a CLIENTHELLO", b.giveBytes(end, Crypto.record(22, hello)), 5);
         }
     }
 
     /** A pair of which one END is told those of the three whose bits are set. */
     private static Bench toldOf(int end, int bits) {
         Bench b = made(2);
+        tellOf(b, end, bits);
+        return b;
+    }
+
+    private static void tellOf(Bench b, int end, int bits) {
         for (int what = 0; what < 3; what++) {
             if ((bits >> what & 1) == 1) {
                 b.put(TOLD[what]);
                 Check.due("tell", b.x.tell(end, what), true);
             }
         }
-        return b;
     }
 
     @Says(promise = 6, text = "False: it isn't MADE, ")

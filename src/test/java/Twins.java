@@ -51,7 +51,10 @@ final class Twins {
 
     private static void goOn(Counted x, Map<String, Integer> answers) {
         for (int end = 0; end < 4; end++) {
-            answers.put("start " + end, x.start(end) ? 1 : 0);
+            // Only where it may start: a start that is refused could itself do what the call before it must not.
+            if (x.state(end, 0) == 0) {
+                answers.put("start " + end, x.start(end) ? 1 : 0);
+            }
         }
         int[][] ways = {{0, 1}, {1, 0}, {1, 0}, {1, 0}, {0, 1}};
         for (int i = 0; i < ways.length; i++) {
