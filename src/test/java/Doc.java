@@ -3,6 +3,8 @@ import java.io.UncheckedIOException;
 import java.nio.charset.StandardCharsets;
 import java.nio.file.Files;
 import java.nio.file.Path;
+import java.util.Arrays;
+import java.util.List;
 
 /** The document, by its parts; every row of blanks and line ends is one blank. */
 final class Doc {
@@ -56,6 +58,13 @@ final class Doc {
             default:
                 throw new IllegalArgumentException("no part of the document: " + name);
         }
+    }
+
+    /** The line of the class itself, then what it declares, in the document's order, without the ends of lines. */
+    static List<String> face() {
+        String text = between("## The public face ", " ## ");
+        String declared = text.substring(text.indexOf('{') + 1, text.lastIndexOf('}')).trim();
+        return Arrays.asList((text.substring(0, text.indexOf('{')).trim() + "; " + declared).split("; ?"));
     }
 
     /** Whether the sentence stands where it is said to. */

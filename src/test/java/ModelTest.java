@@ -7,6 +7,11 @@ public final class ModelTest {
     private static final int CALLS = 512;
     private static final int[] ALERTS = {0, 10, 20, 50};
     private static final int[] KINDS = {1, 2, 8, 20, 24, 24, 24, 4};
+    // Both sides of what the document bounds, and the ends of all numbers.
+    private static final int[] EDGES = {
+        Integer.MIN_VALUE, -256, -2, -1, 0, 1, 2, 3, 4, 5, 9, 10, 15, 16, 17, 31, 32, 33, 63, 64, 65, 255, 256, 257,
+        399, 400, 401, 421, 422, 579, 580, 581, 599, 600, 601, 1999, 2000, 2001, Integer.MAX_VALUE
+    };
 
     private final Random random;
     private final SecretEnds x = new SecretEnds();
@@ -112,7 +117,9 @@ public final class ModelTest {
     private void step(int end) {
         int other = random.nextInt(8) == 0 ? random.nextInt(m.sides.size()) : end ^ 1;
         int dice = random.nextInt(100);
-        if (dice < 30) {
+        if (random.nextInt(15) == 0) {
+            callAtEdges(random.nextInt(4) == 0 ? edge() : end);
+        } else if (dice < 30) {
             carry(end, other);
         } else if (dice < 45) {
             put(Bench.row(random.nextInt(12) == 0 ? random.nextInt(420) : 1 + random.nextInt(9), random.nextInt(256)));
@@ -136,6 +143,38 @@ public final class ModelTest {
             due("alter(" + end + ", " + i + ", " + mask + ")", x.alter(end, i, mask), m.alter(end, i, mask));
         } else {
             ask(end);
+        }
+    }
+
+    private int edge() {
+        return EDGES[random.nextInt(EDGES.length)];
+    }
+
+    /** Any call, with any arguments: none may throw, and most are refused. */
+    private void callAtEdges(int end) {
+        int a = edge();
+        int b = edge();
+        String two = "(" + end + ", " + a + ")";
+        String three = "(" + end + ", " + a + ", " + b + ")";
+        switch (random.nextInt(18)) {
+            case 0 -> due("feed" + three, x.feed(a, b, end, a, b), m.feed(a, b, end, a, b));
+            case 1 -> due("end(" + a + ")", x.end(a), m.end(a));
+            case 2 -> due("make(" + (a > 9) + ")", x.make(a > 9), m.make(a > 9));
+            case 3 -> due("tell" + two, x.tell(end, a), m.tell(end, a));
+            case 4 -> due("start(" + end + ")", x.start(end), m.start(end));
+            case 5 -> due("say(" + end + ")", x.say(end), m.say(end));
+            case 6 -> due("update" + two, x.update(end, a), m.update(end, a));
+            case 7 -> due("close(" + a + ")", x.close(a), m.close(a));
+            case 8 -> carry(end, a);
+            case 9 -> due("give(" + a + ")", x.give(a), m.give(a));
+            case 10 -> due("meddle" + two, x.meddle(end, a), m.meddle(end, a));
+            case 11 -> due("alter" + three, x.alter(end, a, b), m.alter(end, a, b));
+            case 12 -> due("written" + three, x.written(end, a, b), m.written(end, a, b));
+            case 13 -> due("given" + two, x.given(end, a), m.given(end, a));
+            case 14 -> due("secret" + three, x.secret(end, a, b), m.secret(end, a, b));
+            case 15 -> due("state" + two, x.state(end, a), m.state(end, a));
+            case 16 -> due("hash(" + a + ")", x.hash(a), m.hash(a));
+            default -> due("about(" + a + ")", x.about(a), m.about(a));
         }
     }
 
